@@ -5,6 +5,13 @@ public final class ModelTest {
     private static final int OBJECTS = 400;
     private static final int CALLS = 250;
 
+    // By the first two 60 degrees alone do, by the others 100 alone: hot ones dry out by the pricks.
+    private static final String[] LEAST_OR_GREATEST_ALONE = {
+        "skin 3 102 22 14 999 0 0;prick 8;fire 243 4;",
+        "skin 7 206 28 29 999 0 0;fire 112 3;turn 1;fire 82 3;",
+        "skin 1 72 25 54 999 0 0;prick 9;fire 58 39;turn 1;fire 280 16;",
+        "skin 6 230 4 9 999 0 0;prick 2;fire 142 7;turn 1;fire 274 16;"};
+
     private final Check check = new Check("ModelTest");
     private Random random = new Random(0);
     private BurstSkins x = new BurstSkins();
@@ -14,6 +21,9 @@ public final class ModelTest {
         ModelTest t = new ModelTest();
         for (int seed = 0; seed < OBJECTS && t.check.wrong() < 20; seed++) {
             t.runOne(seed);
+        }
+        for (String text : LEAST_OR_GREATEST_ALONE) {
+            t.simmeredBy(text);
         }
         t.check.end();
     }
@@ -29,6 +39,19 @@ public final class ModelTest {
                 call(seed, random.nextInt(64));
             }
         }
+    }
+
+    private void simmeredBy(String text) {
+        x = Check.read(text);
+        model = new SlowModel();
+        for (int i = 0; i < text.length(); i++) {
+            model.type(text.charAt(i), 1);
+        }
+        model.sausage();
+        for (int what = 0; what <= 1; what++) {
+            check.due("simmered(" + what + ") of '" + text + "'", x.simmered(what), model.simmered(what));
+        }
+        check.due("one alone of '" + text + "'", x.simmered(0), x.simmered(1));
     }
 
     private void readText(int seed) {
