@@ -39,7 +39,7 @@ public final class BurstSkins {
     private int dryWeight;
 
     public BurstSkins() {
-        moment.begin(recipe);
+        moment.begin(recipe.water);
     }
 
     // ---- the sausage
@@ -70,7 +70,7 @@ public final class BurstSkins {
         }
         recipe.take(draft);
         reader.length = 0;
-        moment.begin(recipe);
+        moment.begin(recipe.water);
         for (int i = 0; i < IMAGES; i++) {
             kept[i] = false;
         }
@@ -178,7 +178,7 @@ public final class BurstSkins {
 
     public int anew() {
         int were = moment.seconds;
-        moment.begin(recipe);
+        moment.begin(recipe.water);
         return were;
     }
 
@@ -188,7 +188,7 @@ public final class BurstSkins {
         if (outside(spots, 0, ALL_SPOTS) || outside(what, 0, 10)) {
             return BAD;
         }
-        journey.begin(recipe, spots);
+        journey.setOut(recipe, spots);
         journey.follow(recipe, recipe.planSeconds(), false);
         switch (what) {
             case 0: return journey.when;
@@ -210,7 +210,7 @@ public final class BurstSkins {
         for (int set = 0; set <= ALL_SPOTS; set++) {
             int weight = chanceOf(set);
             if (weight > 0) {
-                journey.begin(recipe, set);
+                journey.setOut(recipe, set);
                 if (!staysWhole()) {
                     sum += weight;
                 }
@@ -224,7 +224,7 @@ public final class BurstSkins {
             return BAD;
         }
         for (int p = 0; p <= 9; p++) {
-            journey.begin(recipe, ALL_SPOTS);
+            journey.setOut(recipe, ALL_SPOTS);
             journey.at.prickBy(p);
             if (staysWhole()) {
                 // THIN SPOTS change nothing of WATER: that of the set 0 is the same.
@@ -240,9 +240,9 @@ public final class BurstSkins {
         }
         for (int i = 0; i <= 40; i++) {
             int t = what == 0 ? 60 + i : 100 - i;
-            journey.begin(recipe, ALL_SPOTS);
+            journey.setOut(recipe, ALL_SPOTS);
             for (int s = 0; s < 60; s++) {
-                journey.pass(recipe, SIMMER, t);
+                journey.passNoting(recipe, SIMMER, t);
             }
             if (staysWhole()) {
                 return t;
@@ -260,7 +260,7 @@ public final class BurstSkins {
         int bestEach = NONE;
         for (int h = 80; h <= 260; h += 20) {
             for (int each = 5; each <= 40; each += 5) {
-                journey.begin(recipe, spots);
+                journey.setOut(recipe, spots);
                 journey.turnEach(recipe, n, h, each);
                 int least = journey.at.gone == 0 ? journey.at.leastBrown() : NONE;
                 if (least > most) {
@@ -492,7 +492,7 @@ public final class BurstSkins {
         int times = 0;
         for (int v = 1; v <= tries; v++) {
             changeBy(cause, v);
-            journey.begin(changed, cause == CAUSE_THIN ? 1 << f : 0);
+            journey.setOut(changed, cause == CAUSE_THIN ? 1 << f : 0);
             journey.follow(changed, t, true);
             if (journey.when == t && journey.at.gone == SPLIT && journey.at.splitAt == f) {
                 times++;
@@ -853,14 +853,14 @@ public final class BurstSkins {
         int splitAt;
         int steam;
 
-        void begin(Recipe recipe) {
+        void begin(int waterTold) {
             down = 0;
             for (int f = 0; f < FACES; f++) {
                 degrees[f] = AT_FIRST;
                 brown[f] = 0;
             }
             core = AT_FIRST;
-            water = recipe.water;
+            water = waterTold;
             pricked = 0;
             thinSpots = 0;
             seconds = 0;
@@ -983,7 +983,7 @@ public final class BurstSkins {
         }
 
         int strengthAt(int f, Recipe recipe) {
-            int burnt = outside(f, 0, FACES - 1) ? 0 : Math.max(0, (degrees[f] - 150) / 2);
+            int burnt = f >= 0 && f < FACES ? Math.max(0, (degrees[f] - 150) / 2) : 0;
             int thin = (thinSpots >> f & 1) == 1 ? recipe.thin : 0;
             return Math.max(1, recipe.skin - burnt - thin);
         }
@@ -1005,8 +1005,8 @@ public final class BurstSkins {
         int greatestAt;
         int hiss;
 
-        void begin(Recipe recipe, int spots) {
-            at.begin(recipe);
+        void setOut(Recipe recipe, int spots) {
+            at.begin(recipe.water);
             at.thinSpots = spots;
             when = NONE;
             greatest = 0;
@@ -1014,7 +1014,7 @@ public final class BurstSkins {
             hiss = NONE;
         }
 
-        void pass(Recipe recipe, int kind, int heat) {
+        void passNoting(Recipe recipe, int kind, int heat) {
             int press = at.pass(recipe, kind, heat);
             if (greatestAt == NONE || press > greatest) {
                 greatest = press;
@@ -1042,7 +1042,7 @@ public final class BurstSkins {
                     if (untilGone && at.gone != 0) {
                         return;
                     }
-                    pass(recipe, kind, first);
+                    passNoting(recipe, kind, first);
                 }
             }
         }
@@ -1055,7 +1055,7 @@ public final class BurstSkins {
                     at.turnBy(1);
                     since = 0;
                 }
-                pass(recipe, FIRE, heat);
+                passNoting(recipe, FIRE, heat);
                 since++;
             }
         }
