@@ -2,28 +2,20 @@ import java.util.Random;
 
 /** Many objects, each asked by random calls, against the slow model. The seeds are told: it is always the same. */
 public final class ModelTest {
-    private static final int OBJECTS = 400;
-    private static final int CALLS = 250;
-
-    // By the first two 60 degrees alone do, by the others 100 alone: hot ones dry out by the pricks.
-    private static final String[] LEAST_OR_GREATEST_ALONE = {
-        "skin 3 102 22 14 999 0 0;prick 8;fire 243 4;",
-        "skin 7 206 28 29 999 0 0;fire 112 3;turn 1;fire 82 3;",
-        "skin 1 72 25 54 999 0 0;prick 9;fire 58 39;turn 1;fire 280 16;",
-        "skin 6 230 4 9 999 0 0;prick 2;fire 142 7;turn 1;fire 274 16;"};
+    private static final int OBJECTS = 1600;
+    // What an object answers from its 513th call on is free: none is begun that could come so far.
+    private static final int ENOUGH_CALLS = 400;
 
     private final Check check = new Check("ModelTest");
     private Random random = new Random(0);
     private BurstSkins x = new BurstSkins();
     private SlowModel model = new SlowModel();
+    private int calls;
 
     public static void main(String[] args) {
         ModelTest t = new ModelTest();
         for (int seed = 0; seed < OBJECTS && t.check.wrong() < 20; seed++) {
             t.runOne(seed);
-        }
-        for (String text : LEAST_OR_GREATEST_ALONE) {
-            t.simmeredBy(text);
         }
         t.check.end();
     }
@@ -32,8 +24,9 @@ public final class ModelTest {
         random = new Random(seed);
         x = new BurstSkins();
         model = new SlowModel();
-        for (int i = 0; i < CALLS && check.wrong() < 20; i++) {
-            if (random.nextInt(12) == 0) {
+        calls = 0;
+        while (calls < ENOUGH_CALLS && check.wrong() < 20) {
+            if (calls == 0 || random.nextInt(24) == 0) {
                 readText(seed);
             } else {
                 call(seed, random.nextInt(64));
@@ -41,33 +34,24 @@ public final class ModelTest {
         }
     }
 
-    private void simmeredBy(String text) {
-        x = Check.read(text);
-        model = new SlowModel();
-        for (int i = 0; i < text.length(); i++) {
-            model.type(text.charAt(i), 1);
-        }
-        model.sausage();
-        for (int what = 0; what <= 1; what++) {
-            check.due("simmered(" + what + ") of '" + text + "'", x.simmered(what), model.simmered(what));
-        }
-        check.due("one alone of '" + text + "'", x.simmered(0), x.simmered(1));
-    }
-
     private void readText(int seed) {
         String text = randomText();
         due(seed, "clear()", x.clear(), model.clear());
-        for (int i = 0; i < text.length(); i++) {
-            int b = text.charAt(i);
-            due(seed, "type(" + b + ", 1)", x.type(b, 1), model.type(b, 1));
+        for (int from = 0; from < text.length(); from += 8) {
+            int n = Math.min(8, text.length() - from);
+            long v = random.nextLong();
+            for (int i = 0; i < n; i++) {
+                v = v << 8 | text.charAt(from + i);
+            }
+            due(seed, "type(" + v + ", " + n + ")", x.type(v, n), model.type(v, n));
         }
         due(seed, "sausage() of '" + text + "'", x.sausage(), model.sausage());
         due(seed, "count(2)", x.count(2), model.count(2));
-        for (int what = -1; what <= 11; what++) {
+        for (int what = 0; what <= 10; what++) {
             due(seed, "told(" + what + ")", x.told(what), model.told(what));
         }
-        for (int k = -1; k <= 12; k++) {
-            for (int what = -1; what <= 3; what++) {
+        for (int k = 0; k < model.count(0); k++) {
+            for (int what = 0; what <= 2; what++) {
                 due(seed, "doing(" + k + ", " + what + ")", x.doing(k, what), model.doing(k, what));
             }
         }
@@ -143,6 +127,7 @@ public final class ModelTest {
     }
 
     private void due(int seed, String call, long got, long want) {
+        calls++;
         check.due("object " + seed + ", " + call, got, want);
     }
 
@@ -251,6 +236,7 @@ public final class ModelTest {
         int when = x.run(spots, 0);
         int t = when > 0 && random.nextInt(5) > 0 ? when - random.nextInt(3) : from(1, 999);
         int where = x.run(spots, 2);
+        calls += 2;
         int f = where >= 0 && random.nextInt(5) > 0 ? where : from(0, 3);
         int cause = from(0, 4), what = from(0, 1);
         due(seed, "began(" + t + ", " + f + ", " + cause + ")", x.began(t, f, cause), model.began(t, f, cause));

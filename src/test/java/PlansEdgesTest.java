@@ -54,6 +54,14 @@ public final class PlansEdgesTest {
             due("22: no SECONDS", x.began(1, 0, 2), 0);
         }
         dueRun("skin 9 1 99 77 1 1 10;prick 1;fire 20 1;", 0, 0, 1);
+        // Nothing is left of a PLAN that had SECONDS.
+        BurstSkins x = Check.read("skin 3 29 10 300 999 0 0;fire 300 3;");
+        due("15: it goes", x.run(0, 7) * 10 + x.run(0, 0), 101);
+        Check.typed(x, "skin 9 1 99 77 1 1 10;prick 1;");
+        due("4: another text", x.sausage(), 2);
+        for (int what = 0; what <= 10; what++) {
+            due("15: run(0, " + what + ") without SECONDS then", x.run(0, what), want[what]);
+        }
     }
 
     private static void hiss() {

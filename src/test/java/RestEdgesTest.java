@@ -156,6 +156,7 @@ public final class RestEdgesTest {
         dueBegan("skin 1 5 1 0 999 0" + second, 0, 0, 0, 8, 0, 0);
         dueBegan("skin 1 5 2 0 999 0" + second, 0, 0, 0, 9, 0, 9);
         dueBegan("skin 1 15 2 0 999 0" + second, 0, 0, 0, 6, 0, 8);
+        hottestFires();
         // A THIN spot at f, no other.
         for (int f = 0; f < 4; f++) {
             for (int g = 0; g < 4; g++) {
@@ -167,6 +168,19 @@ public final class RestEdgesTest {
         // POPPED is not at a face.
         dueBegan("skin 4 999 20 0 39 0" + second, 0, 0, 0, 0, 0, 0);
         due("22: not in another SECOND", Check.read("skin 4 79 20 0 999 0 0;fire 20 9;").began(2, 0, 0), 0);
+    }
+
+    /** Two SECONDS of FIRE 300: PRESS 31, PULL 93; of FIRE 299 PRESS 30, PULL 90. */
+    private static void hottestFires() {
+        int[][] heatAndTimes = {{281, 8}, {282, 8}, {289, 8}, {290, 9}, {291, 9}, {299, 9}, {300, 9}, {219, 1}, {210, 1}, {209, 0}};
+        for (int[] h : heatAndTimes) {
+            due("22: each fire 10 v hotter than " + h[0],
+                Check.read("skin 3 92 10 300 999 0 0;fire " + h[0] + " 2;").began(2, 0, 3), h[1]);
+            due("22: 300 at most, from " + h[0],
+                Check.read("skin 3 93 10 300 999 0 0;fire " + h[0] + " 2;").began(2, 0, 3), 0);
+        }
+        due("22: each of them", Check.read("skin 3 92 10 300 999 0 0;fire 290 1;fire 290 1;").began(2, 0, 3), 9);
+        due("22: none hotter in water", Check.read("skin 1 999 10 300 999 0 0;simmer 90 9;").began(9, 0, 3), 0);
     }
 
     private static void beganAtTheLastSecond() {

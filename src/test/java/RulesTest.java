@@ -1,7 +1,13 @@
 import java.io.IOException;
+import java.lang.reflect.Field;
+import java.lang.reflect.Modifier;
 import java.nio.file.Files;
 import java.nio.file.Path;
+import java.util.HashMap;
+import java.util.HashSet;
 import java.util.List;
+import java.util.Map;
+import java.util.Set;
 import java.util.regex.Matcher;
 import java.util.regex.Pattern;
 
@@ -9,7 +15,8 @@ import java.util.regex.Pattern;
 public final class RulesTest {
     private static final List<String> NOT_WRITTEN = List.of(
         "throw", "throws", "try", "catch", "finally", "synchronized", "assert", "import", "package", "protected",
-        "volatile", "transient", "native", "instanceof", "yield", "this", "super");
+        "volatile", "transient", "native", "instanceof", "yield", "this", "super",
+        "double", "float", "Object", "StringBuilder", "ArrayList", "List", "Thread", "Random", "Runtime");
     private static final List<String> LIBRARY = List.of(
         "Math.max", "Math.min");
 
@@ -34,8 +41,65 @@ public final class RulesTest {
                 check.isTrue("5: static and final: " + line.strip(), line.contains("static final "));
             }
         }
+        check.isTrue("10: no texts joined by +", !Pattern.compile("\"\\s*\\+|\\+\\s*\"").matcher(code).find());
+        check.isTrue("9: no loop without a condition", !Pattern.compile("for \\([^;]*; *;|while \\(true").matcher(code).find());
         lengths(check, source);
+        counts(check);
+        depths(check, code);
         check.end();
+    }
+
+    private static void counts(Check check) {
+        Class<?>[] inside = BurstSkins.class.getDeclaredClasses();
+        check.isTrue("11: some twelve classes at most", inside.length + 1 <= 12);
+        fields(check, BurstSkins.class);
+        for (Class<?> c : inside) {
+            fields(check, c);
+        }
+    }
+
+    private static void fields(Check check, Class<?> c) {
+        int fields = 0;
+        for (Field f : c.getDeclaredFields()) {
+            boolean isStatic = Modifier.isStatic(f.getModifiers());
+            fields += isStatic ? 0 : 1;
+            check.isTrue("5: no static state: " + f, !isStatic || Modifier.isFinal(f.getModifiers()));
+        }
+        check.isTrue("11: some twenty fields at most in " + c, fields <= 20);
+    }
+
+    /** Which methods of the file a method calls, by their names (two of one name are as one), and how deep that goes. */
+    private static void depths(Check check, String code) {
+        Map<String, Set<String>> calls = new HashMap<>();
+        Pattern head = Pattern.compile(" +(?:[\\w\\[\\]]+ )+(\\w+)\\([^;()]*\\) \\{");
+        String name = "";
+        for (String line : code.split("\n")) {
+            Matcher m = head.matcher(line);
+            if (m.matches() && !line.matches(" +(else )?(if|for|while|switch) .*")) {
+                name = m.group(1);
+                calls.putIfAbsent(name, new HashSet<>());
+            } else if (!name.isEmpty()) {
+                Matcher called = Pattern.compile("(Math\\.)?\\b(\\w+)\\(").matcher(line);
+                while (called.find()) {
+                    calls.get(name).add(called.group(1) == null ? called.group(2) : "");
+                }
+            }
+        }
+        check.isTrue("11: the methods are found", calls.containsKey("why") && calls.containsKey("strengthAt"));
+        for (String from : calls.keySet()) {
+            check.isTrue("8, 11: eight deep at most, none that comes back: " + from, depth(calls, from, 0) <= 8);
+        }
+    }
+
+    private static int depth(Map<String, Set<String>> calls, String name, int above) {
+        int deepest = 0;
+        if (calls.containsKey(name) && above < 50) {
+            for (String called : calls.get(name)) {
+                deepest = Math.max(deepest, depth(calls, called, above + 1));
+            }
+            return deepest + 1;
+        }
+        return above < 50 ? 0 : 50;
     }
 
     /** A method's lines, from its head to the closing brace that stands as far in as the head. */
