@@ -473,12 +473,21 @@ public final class BurstSkins {
             int sum = 0;
             int rest = row;
             for (int r = 0; r < rounds; r++) {
-                sum += heats[CELLS_OF_ORDERS[rest % ORDERS * FACES + i]];
+                sum += heatAt(rest % ORDERS * FACES + i);
                 rest /= ORDERS;
             }
             least = Math.min(least, sum);
         }
         return least;
+    }
+
+    /** The HEAT of the cell that stands at a place of CELLS_OF_ORDERS. */
+    private int heatAt(int place) {
+        if (outside(place, 0, CELLS_OF_ORDERS.length - 1)) {
+            return 0;
+        }
+        int cell = CELLS_OF_ORDERS[place];
+        return outside(cell, 0, FACES - 1) ? 0 : heats[cell];
     }
 
     private static boolean noBeginning(int t, int f, int cause) {
@@ -713,7 +722,7 @@ public final class BurstSkins {
             int many = FROM[word + 1] - from;
             for (int i = 0; i < many && i < MOST_NUMBERS; i++) {
                 readToken();
-                if (token != NUMBER || outside(value, LOW[from + i], HIGH[from + i])) {
+                if (token != NUMBER || !mayBe(from + i)) {
                     return false;
                 }
                 numbers[i] = value;
@@ -734,6 +743,11 @@ public final class BurstSkins {
                 return !bentTold;
             }
             return !into.isFull();
+        }
+
+        /** Whether the number just read is what the number at a place of LOW and HIGH may be. */
+        private boolean mayBe(int at) {
+            return at >= 0 && at < LOW.length && at < HIGH.length && !outside(value, LOW[at], HIGH[at]);
         }
 
         private void tell(int word, int many, Recipe into) {
